@@ -10,6 +10,7 @@ public final class PromisesOfTexts {
         planFaults();
         lawFaults();
         telling();
+        smallerHouse();
         rules();
         debts();
         buyers();
@@ -264,6 +265,8 @@ public final class PromisesOfTexts {
         lawFault("y:!!!!!!1=[1]?1", 10);
         lawFault("y:!!!!!!1=1&[1]=1?1", -1);
         lawFault("y:!!!!!!1=1?[1]", -1);
+        lawFault("y:1=1?[[[[[[1]]]]]]", -1);
+        lawFault("y:1=1?[[[[[[[1]]]]]]]", 12);
         lawFault("y:!(!(![1]=1))?1", -1);
         lawFault("y:!(!(![[1]]=1))?1", 8);
         lawFault("y:(((!!!1=1)))?1", -1);
@@ -285,7 +288,9 @@ public final class PromisesOfTexts {
         Check.due(5, "the tape is empty then", x.count(4), 0);
         for (int i = 0; i < 4; i++) {
             Check.due(5, "law " + i, Check.tell(x, 1, "y:" + (i + 1)), i);
+            Check.due(5, "the tape is empty behind a law", x.count(4), 0);
             Check.due(5, "plan " + i, Check.tell(x, 2, "w" + i), i);
+            Check.due(5, "the tape is empty behind a plan", x.count(4), 0);
         }
         Check.due(5, "a fifth law", Check.tell(x, 1, "y:1"), -1);
         Check.due(5, "its text is left", x.count(4), 3);
@@ -324,6 +329,32 @@ public final class PromisesOfTexts {
         Check.due(5, "a house with a fault", x.text(0), -1);
         x.end(0);
         Check.same(5, "a refused house changes nothing", Check.seen(x), before);
+    }
+
+    /** Rows of houses that were larger must not show through. */
+    private static void smallerHouse() {
+        CraneCloth x = new CraneCloth();
+        String large = "sl20;dn1v9;dn1v9;dn1v9;dn1v9;dn1v9;dn1v9;b;b;b;b;b";
+        for (int i = 0; i < 2; i++) {
+            Check.due(5, "a large house", Check.tell(x, 0, large), 5);
+            Check.weeks(x, "100");
+            x.give(99);
+            for (int d = 0; d < 6; d++) {
+                x.pay(d);
+            }
+            x.sell(1, 0);
+        }
+        Check.due(5, "a small house", Check.tell(x, 0, "d;b"), 1);
+        Check.weeks(x, "1100000000000");
+        x.give(1);
+        Check.due(5, "one debt is owed", x.owed(0), 23);
+        Check.due(5, "one debt is late", x.owed(1), 1);
+        Check.due(5, "one debt grows", x.paying(1), 1);
+        Check.due(5, "no such buyer", x.sell(1, 0), -1);
+        Check.due(5, "no such debt", x.pay(1), -1);
+        Check.due(5, "one buyer", x.market(0), 40);
+        x.give(99);
+        Check.due(5, "the debt can be paid", x.pay(0), 77);
     }
 
     private static void rules() {
