@@ -1109,8 +1109,8 @@ public final class CraneCloth {
         private static final int[] LETTERS = {'w', 't', 'k', 'n', 'y', 'm'};
         static final int LETTER_COUNT = 6;
         static final int STACK_MOST = 64;
-        static final int FIRST_LETTER = -2;
-        static final int LAST_LETTER = -7;
+        static final int FIRST_LETTER = -1;
+        static final int LAST_LETTER = -6;
         static final int PLUS = -10;
         static final int MINUS = -11;
         static final int TIMES = -12;
