@@ -892,13 +892,18 @@ public final class CraneCloth {
         }
 
         private void readClause(Tape tape) {
-            if (!ruled && tape.accept('s')) {
+            // looked at ahead of all counts: in a full house, too, the fault is at the letter, not at blanks ahead of it
+            int letter = tape.peek();
+            if (letter == 's' && !ruled) {
+                tape.skip();
                 ruled = true;
                 readItems(tape, rules, 0, RULE_ITEMS);
-            } else if (debtCount < DEBTS_MOST && tape.accept('d')) {
+            } else if (letter == 'd' && debtCount < DEBTS_MOST) {
+                tape.skip();
                 readItems(tape, debts, 3 * debtCount, DEBT_ITEMS);
                 debtCount++;
-            } else if (buyerCount < BUYERS_MOST && tape.accept('b')) {
+            } else if (letter == 'b' && buyerCount < BUYERS_MOST) {
+                tape.skip();
                 readItems(tape, buyers, 3 * buyerCount, BUYER_ITEMS);
                 buyerCount++;
             } else {

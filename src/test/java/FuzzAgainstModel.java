@@ -110,6 +110,9 @@ public final class FuzzAgainstModel {
         if (which == 0) {
             return tell(0, house());
         }
+        if (which == 1) {
+            return tell(0, crowdedHouse());
+        }
         if (which < 5) {
             return tell(0, spoilt(house(), "sdbwmgtpklnviq0123456789; x"));
         }
@@ -158,6 +161,23 @@ public final class FuzzAgainstModel {
             clauses.add(random.nextInt(clauses.size() + 1), "b" + item("n", 1, 9) + item("q", 0, 30) + item("p", 0, 60));
         }
         return spaced(String.join(";", clauses));
+    }
+
+    /** About as many clauses as a house can have, some of them too many, with few items and many blanks. */
+    private String crowdedHouse() {
+        List<String> clauses = new ArrayList<>();
+        String all = "sddddddbbbbb";
+        for (int i = 0; i < all.length(); i++) {
+            if (random.nextInt(30) > 0) {
+                clauses.add(random.nextInt(clauses.size() + 1), all.substring(i, i + 1));
+            }
+        }
+        if (random.nextInt(3) > 0) {
+            String[] more = {"s", "d", "b", "x", "", "1", "bn2", "s;d"};
+            clauses.add(more[random.nextInt(more.length)]);
+        }
+        String blanks = " ".repeat(random.nextInt(3));
+        return spaced(String.join(random.nextBoolean() ? ";" + blanks : blanks + ";", clauses)) + " ".repeat(random.nextInt(3));
     }
 
     private String item(String letter, int low, int high) {

@@ -149,8 +149,33 @@ public final class PromisesOfTexts {
         houseFault("b;b;b;b;b; b", 11);
         houseFault("s;d;d;d;d;d;d;b;b;b;b;b", -1);
         houseFault("s;d;d;d;d;d;d;b;b;b;b;b;b", 24);
+        fullHouseFaults();
         Check.due(4, "fault(3)", new CraneCloth().fault(3), -2);
         Check.due(4, "fault(-1)", new CraneCloth().fault(-1), -2);
+    }
+
+    /** Behind all clauses that a house can have the fault is at the next sign, whichever it is, or at the length. */
+    private static void fullHouseFaults() {
+        String[] full = {"s;d;d;d;d;d;d;b;b;b;b;b", "b;b;d;d;d;s;d;d;b;d;b;b", " s ; d;d;d;d;d;d;b;b;b;b;b "};
+        for (String house : full) {
+            int length = house.length();
+            houseFault(house, -1);
+            houseFault(house + "   ", -1);
+            houseFault(house + ";", length + 1);
+            houseFault(house + ";  ", length + 3);
+            houseFault(house + " ; ", length + 3);
+            houseFault(house + "x", length);
+            for (String letter : new String[] {"s", "d", "b", "x", ";", "p", "1"}) {
+                houseFault(house + ";" + letter, length + 1);
+                houseFault(house + "; " + letter, length + 2);
+                houseFault(house + ";    " + letter + "n1", length + 5);
+                houseFault(house + "  ;  " + letter + " ", length + 5);
+            }
+        }
+        houseFault("b; s; s", 6);
+        houseFault("d;d;d;d;d;d;  d;b", 14);
+        houseFault("s;d;d;d;d;d;d;b;b;b;b;  d", 24);
+        houseFault("s;d;d;d;d;d;d;b;b;b;b;  s", 24);
     }
 
     private static void planFault(String text, int want) {
