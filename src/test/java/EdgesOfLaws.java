@@ -306,6 +306,31 @@ final class EdgesOfLaws {
         takes("y:4>3?5;y:6", 5);
         takes("y:3>3?5;y:6", 6);
         takes("y:3>4?5;y:6", 6);
+        Edge.of(9, "UNIT: ! UNIT, ( CONDITION ), or SUM, one of = < >, SUM");
+        String[] hold = {"3=3", "3<4", "4>3", "!3=4", "!4<3", "!3>4", "(3=3)", "(3<4|3=4)", "(4>3&3=3)"};
+        String[] fail = {"3=4", "4<3", "3>4", "!3=3", "!3<4", "!4>3", "(3=4)", "(4<3|3=4)", "(4>3&3=4)"};
+        for (String one : hold) {
+            takes("y:!" + one + "?5;y:6", 6);
+            takes("y:!!" + one + "?5;y:6", 5);
+            for (String other : hold) {
+                takes("y:" + one + "&" + other + "?5;y:6", 5);
+                takes("y:" + one + "|" + other + "?5;y:6", 5);
+                takes("y:!(" + one + "|" + other + ")?5;y:6", 6);
+            }
+            for (String other : fail) {
+                takes("y:" + one + "&" + other + "?5;y:6", 6);
+                takes("y:" + other + "&" + one + "?5;y:6", 6);
+                takes("y:" + one + "|" + other + "?5;y:6", 5);
+                takes("y:" + other + "|" + one + "?5;y:6", 5);
+            }
+        }
+        for (String one : fail) {
+            takes("y:!" + one + "?5;y:6", 5);
+            for (String other : fail) {
+                takes("y:" + one + "|" + other + "?5;y:6", 6);
+                takes("y:!(" + one + "|" + other + ")?5;y:6", 5);
+            }
+        }
         Edge.of(9, "TRUTHS with | between; TRUTH: UNITS with & between");
         takes("y:1=1|1=2&1=2?5;y:6", 5);
         takes("y:1=2&1=2|1=1?5;y:6", 5);

@@ -255,6 +255,16 @@ final class EdgesOfProofs {
         x.sign(2, 9, true);
         Edge.due("none", x.from(NONE), 0);
         Edge.due("the first of none", x.from(0), NONE);
+        // bolts of weeks 0 to 3, with 40, 35, 31, 28 down ahead of them, and 8, 7, 6, 5 taken by them
+        CraneCloth sorts = Edge.byLaw("sw40g3l20;b", "y:8-n");
+        Check.weeks(sorts, "1111");
+        int[][] signs = {{2, 6, 1}, {0, 1, 1}, {1, 35, 0}, {2, 7, 0}, {1, 30, 1}, {0, 2, 0}};
+        int[] left = {3, 2, 1, 1, 1, 0};
+        for (int i = 0; i < signs.length; i++) {
+            sorts.sign(signs[i][0], signs[i][1], signs[i][2] == 1);
+            Edge.due("how many by " + (i + 1) + " signs of several sorts", sorts.from(NONE), left[i]);
+            Edge.due("the first of them", sorts.from(0), new int[] {0, 1, 2, 2, 2, NONE}[i]);
+        }
         CraneCloth full = Check.house("sw60m60g9t1l20;b");
         full.iron(true);
         for (int i = 0; i < 60; i++) {
@@ -304,6 +314,16 @@ final class EdgesOfProofs {
         took.law(0);
         Check.weeks(took, "11");
         Edge.due("1 and 2 taken", took.ask(), 202);
+        CraneCloth nothing = Edge.inWeek(100, "sm60w60g9l20;b");
+        Check.tell(nothing, 1, "y:n");
+        nothing.law(0);
+        Check.weeks(nothing, "11");
+        Edge.due("0 and 1 taken", nothing.ask(), 201);
+        CraneCloth lean = Edge.inWeek(100, "sm60w60g0l20;b");
+        Check.tell(lean, 1, "y:n=0?59;y:0");
+        lean.law(0);
+        Check.weeks(lean, "11");
+        Edge.due("60 and 1 down", lean.ask(), 102);
         CraneCloth alike = Edge.inWeek(100, "sm60w60g9l20;b");
         Check.weeks(alike, "11");
         Edge.due("alike in all", alike.ask(), 0);

@@ -171,6 +171,17 @@ final class EdgesOfTape {
         Edge.due("fault(2) of a plan", Check.fault(x, 2, "c"), NONE);
         Edge.due("no law by that", x.count(2), 0);
         Edge.due("no plan by that", x.count(3), 0);
+        CraneCloth asked = new CraneCloth();
+        Check.feed(asked, "s;d;d;d;b;b");
+        Edge.due("fault(0) of a first house", asked.fault(0), NONE);
+        Edge.due("fault(0) of it again", asked.fault(0), NONE);
+        Edge.due("no house by that", asked.count(0), 0);
+        Edge.due("its buyers", asked.text(0), 2);
+        Edge.due("its debts", asked.count(1), 3);
+        CraneCloth cutOff = new CraneCloth();
+        Edge.due("fault(0) of six debts and an x", Check.fault(cutOff, 0, "s;d;d;d;d;d;d;b;b;b;b;b;x"), 24);
+        Edge.due("text(0) of six debts behind it", Check.tell(cutOff, 0, "sw9;d;d;d;d;d;d;b;b;b;b;b"), 5);
+        Edge.due("six debts", cutOff.count(1), 6);
         CraneCloth four = new CraneCloth();
         for (int i = 0; i < 4; i++) {
             Check.tell(four, 1, "y:1");

@@ -78,6 +78,17 @@ final class EdgesOfTrade {
         Edge.due("no money of it", x.count(7), 0);
         Edge.due("sell(1, 0) is one", x.sell(1, 0), 20);
         Edge.due("sell(1, 1) is one", x.sell(1, 1), 28);
+        CraneCloth fewer = new CraneCloth();
+        for (int i = 0; i < 3; i++) {
+            Check.tell(fewer, 0, "d;d;b;b;b;b;b");
+        }
+        Check.tell(fewer, 0, "d;b");
+        Check.weeks(fewer, "11");
+        fewer.cut();
+        for (int buyer = 1; buyer <= 5; buyer++) {
+            Edge.due("a bolt to buyer " + buyer + " of the houses ahead", fewer.sell(buyer, 0), NONE);
+            Edge.due("a third to buyer " + buyer + " of the houses ahead", fewer.sell(buyer, 1), NONE);
+        }
         Edge.of(13, "there is none");
         Edge.due("no bolt, but thirds", x.sell(0, 0), NONE);
         Edge.due("a third", x.sell(0, 1), 36);
@@ -162,6 +173,13 @@ final class EdgesOfTrade {
         Edge.due("pay(0) again", x.pay(0), NONE);
         x.undo();
         Edge.due("undone, pay(0) once more", x.pay(0), 96);
+        CraneCloth fewer = new CraneCloth();
+        for (int i = 0; i < 3; i++) {
+            Check.tell(fewer, 0, "dv1;dv1;dv1;b");
+        }
+        Check.tell(fewer, 0, "dv1;b");
+        fewer.give(9);
+        Edge.due("pay(1) of the houses ahead", fewer.pay(1), NONE);
         CraneCloth six = Check.house("dv1;dv2;dv3;dv4;dv5;dv6;b");
         six.give(21);
         for (int i = 0; i < 6; i++) {
@@ -456,6 +474,26 @@ final class EdgesOfTrade {
         Edge.due("a house that is refused", x.text(0), NONE);
         Edge.due("leaves the image", x.back(), 1);
         Edge.of(46, "the LOG, THE BOOK; BACK");
+        CraneCloth other = Check.house("sl20;b");
+        Check.weeks(other, "11");
+        other.image();
+        other.undo();
+        other.undo();
+        Check.weeks(other, "2021");
+        Edge.due("another bolt in the book", other.book(0, 0), 3);
+        Edge.due("back()", other.back(), 2);
+        int[][] book = {{0, 30, 8}, {1, 25, 8}};
+        int[][] log = {{1, 0, 20}, {1, 0, 25}};
+        for (int i = 0; i < 2; i++) {
+            for (int what = 0; what <= 2; what++) {
+                Edge.due("book(" + i + ", " + what + ") again", other.book(i, what), book[i][what]);
+                Edge.due("log(" + i + ", " + what + ") again", other.log(i, what), log[i][what]);
+            }
+        }
+        Check.weeks(other, "21");
+        Edge.due("the image itself is as it was", other.back(), 2);
+        Edge.due("its second bolt", other.book(1, 0), 1);
+        Edge.due("no third bolt", other.book(2, 0), NONE);
         CraneCloth full = Check.house("sp1;b");
         for (int i = 0; i < 70; i++) {
             full.week(2);
