@@ -31,6 +31,7 @@ final class Edge {
     private static final String[] SECTIONS = new String[PROMISES + 1];
     /** Which signs of a section were named by a case. */
     private static final boolean[][] NAMED = new boolean[PROMISES + 1][];
+    private static boolean documentIsThere;
     private static int promise;
     private static String words;
 
@@ -38,6 +39,12 @@ final class Edge {
     }
 
     static void open() throws IOException {
+        // the cases themselves need no document: without it only their names can't be looked up
+        documentIsThere = Files.exists(DOCUMENT);
+        if (!documentIsThere) {
+            System.out.println("no " + DOCUMENT + ": the words of the cases are not looked up");
+            return;
+        }
         String all = Files.readString(DOCUMENT, StandardCharsets.UTF_8);
         SECTIONS[0] = part(all, "## Terms", "\n## ");
         for (int i = 1; i <= PROMISES; i++) {
@@ -62,6 +69,9 @@ final class Edge {
     static void of(int promise, String words) {
         Edge.promise = promise;
         Edge.words = words;
+        if (!documentIsThere) {
+            return;
+        }
         int section = SECTIONS[promise].contains(words) ? promise : 0;
         int at = SECTIONS[section].indexOf(words);
         Check.due(promise, "the document says '" + words + "'", at >= 0, true);
@@ -129,6 +139,13 @@ final class Edge {
 
     /** Each refusal that a promise lists, and each bound in the terms, was named by a case. */
     static void finish() {
+        if (documentIsThere) {
+            lookForUnnamed();
+        }
+        Check.finish();
+    }
+
+    private static void lookForUnnamed() {
         for (int i = 1; i <= PROMISES; i++) {
             for (int[] span : refusals(SECTIONS[i])) {
                 named(i, span[0], span[1]);
@@ -143,7 +160,6 @@ final class Edge {
         while (bound.find()) {
             named(0, bound.start(), bound.end());
         }
-        Check.finish();
     }
 
     private static void named(int section, int from, int to) {

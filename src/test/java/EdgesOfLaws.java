@@ -363,7 +363,9 @@ final class EdgesOfLaws {
 
     private static void promise6_heldWithin() {
         Edge.of(6, "WORTH by the LAW that holds, held within 0 .. 60");
-        takes("y:0", 0);
+        for (int number = 0; number <= 60; number++) {
+            takes("y:" + number, number);
+        }
         takes("y:0-1", 0);
         takes("y:0-9999", 0);
         takes("y:59", 59);

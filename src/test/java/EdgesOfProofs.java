@@ -327,5 +327,12 @@ final class EdgesOfProofs {
         CraneCloth alike = Edge.inWeek(100, "sm60w60g9l20;b");
         Check.weeks(alike, "11");
         Edge.due("alike in all", alike.ask(), 0);
+        CraneCloth sixty = Edge.inWeek(99, "sw60m60g9t1l20;b");
+        sixty.iron(true);
+        for (int i = 0; i < 60; i++) {
+            sixty.week(1);
+        }
+        Edge.due("sixty fit", sixty.from(NONE), 60);
+        Edge.due("sixty alike in all", sixty.ask(), 0);
     }
 }

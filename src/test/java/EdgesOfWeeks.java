@@ -460,6 +460,19 @@ final class EdgesOfWeeks {
                 Edge.due("buyer(" + buyer + ", 3) by hand, seed " + seed, x.buyer(buyer, 3), hand.buyer(buyer, 3));
             }
         }
+        // a draw of 1 is always 0, but x goes on by it
+        CraneCloth one = Check.house("sw60m60g3t1l20;bp1n9");
+        one.lives(30, 77);
+        seed(77);
+        for (int week = 0, bolts = 0, wants = 9; week < 30; week++) {
+            int deed = draw(10) < 2 ? 0 : draw(2) == 0 ? 1 : 2;
+            bolts += deed == 1 ? 1 : 0;
+            Edge.due("deed of week " + week + " with one buyer", one.log(29 - week, 0), deed);
+            if (bolts > 0 && draw(1) == 0 && wants > 0) {
+                bolts--;
+                wants--;
+            }
+        }
     }
 
     private static void promise17_oneAct() {
