@@ -114,6 +114,7 @@ public final class FaceAndRules {
         int began = -1;
         for (int i = 0; i < lines.size(); i++) {
             String line = lines.get(i);
+            hold(line.matches("[ -~]*"), "line " + (i + 1) + " has signs 32 to 126 alone");
             for (String sign : refused) {
                 hold(!line.contains(sign), "line " + (i + 1) + " has " + sign);
             }

@@ -45,12 +45,16 @@ public final class FuzzAgainstModel {
     }
 
     private boolean live() {
-        if (random.nextInt(4) > 0) {
+        int kind = random.nextInt(10);
+        if (kind >= 7) {
+            if (!farBegun(kind)) {
+                return false;
+            }
+        } else if (random.nextInt(4) > 0) {
             if (!tell(0, house())) {
                 return false;
             }
         }
-        int kind = random.nextInt(6);
         while (calls < 490) {
             boolean well;
             int which = random.nextInt(100);
@@ -71,6 +75,30 @@ public final class FuzzAgainstModel {
             }
         }
         return true;
+    }
+
+    /** A house with nearly the most money (7), in one of the last weeks (8), or with a book that is nearly full (9). */
+    private boolean farBegun(int kind) {
+        boolean well = kind == 9 ? tell(0, "sw60m60g9t1l20k0;bn9p60q30;bn9;d") : tell(0, house());
+        if (kind == 7) {
+            int gifts = 98 + random.nextInt(3);
+            for (int i = 0; i < gifts && well; i++) {
+                well = same("give(99)", x.give(99), m.give(99));
+            }
+        } else if (kind == 8) {
+            for (int i = 0; i < 17 && well; i++) {
+                int n = i < 16 ? 60 : 30 + random.nextInt(10);
+                long seed = random.nextLong();
+                well = same("lives(" + n + ", " + seed + ")", x.lives(n, seed), m.lives(n, seed));
+            }
+        } else {
+            well = well && same("iron(true)", x.iron(true) ? 1 : 0, m.iron(true) ? 1 : 0);
+            int bolts = 50 + random.nextInt(12);
+            for (int i = 0; i < bolts && well; i++) {
+                well = same("week(1)", x.week(1), m.week(1));
+            }
+        }
+        return well;
     }
 
     /** A number near its bounds, mostly within. */
